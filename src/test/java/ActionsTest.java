@@ -6,6 +6,7 @@ final class ActionsTest {
         tracks();
         trains();
         rust();
+        highestLevel();
         fullOfTrains();
         rents();
         offers();
@@ -13,6 +14,7 @@ final class ActionsTest {
         runs();
         runsBelowZero();
         trainsMoveWithTheirRuns();
+        newTrainsDidNotRun();
         rounds();
         bankruptcy();
         undoing();
@@ -42,6 +44,11 @@ final class ActionsTest {
         }
         CHECKS.due("just enough but for one", 1, () -> exact.buyTrack(2, 3));
         CHECKS.badState("one coin, three wanted", () -> exact.buyTrack(2, 4));
+        RustRails just = Checks.gameOf("R2t019t019t012");
+        just.buyTrain(0, 2);
+        just.buyTrack(0, 0);
+        just.buyTrack(0, 1);
+        CHECKS.due("6 of 6 coins", 0, () -> just.buyTrack(0, 2));
     }
 
     private static void trains() {
@@ -102,6 +109,29 @@ final class ActionsTest {
         CHECKS.badState("level 6 for 120 coins", () -> last.buyTrain(3, 6));
     }
 
+    /** Companies 0 and 1 earn what the highest levels cost. */
+    private static void highestLevel() {
+        RustRails game = Checks.gameOf("R2t011c01999c10999c01999");
+        for (int i = 0; i < 2; i++) {
+            game.buyTrain(i, 1);
+            game.take(i, i);
+            game.run(i, 0);
+        }
+        game.buyTrain(2, 2);
+        CHECKS.due("two of level 1", 2, () -> game.buyTrain(3, 3));
+        CHECKS.due("one of level 2", 1, () -> game.buyTrain(0, 4));
+        CHECKS.badState("level 6 in phase 4", () -> game.buyTrain(1, 6));
+        CHECKS.due("one of level 3", 1, () -> game.buyTrain(1, 5));
+        game.take(0, 2);
+        game.run(2, 0);
+        CHECKS.due("coins", 196, () -> game.company(0, 0));
+        CHECKS.due("one of level 4", 1, () -> game.buyTrain(0, 6));
+        CHECKS.due("phase 6", 6, () -> game.about(3));
+        CHECKS.due("120 coins", 76, () -> game.company(0, 0));
+        CHECKS.due("rusted so far", 5, () -> game.about(10));
+        CHECKS.badArgument("level 7 in phase 6", () -> game.buyTrain(0, 7));
+    }
+
     private static void fullOfTrains() {
         RustRails game = new RustRails();
         for (int j = 0; j < 4; j++) {
@@ -132,6 +162,9 @@ final class ActionsTest {
     private static void offers() {
         RustRails game = new RustRails();
         CHECKS.outOfBounds("city 3", () -> game.offer(3, 3, 0, 0));
+        CHECKS.outOfBounds("city 3 from", () -> game.offer(3, 0, 1, 1));
+        CHECKS.outOfBounds("city 3 to", () -> game.offer(0, 3, 1, 1));
+        CHECKS.outOfBounds("city -1 from", () -> game.offer(-1, 0, 1, 1));
         CHECKS.outOfBounds("city -1", () -> game.offer(0, -1, 1, 1));
         CHECKS.badArgument("the same city", () -> game.offer(1, 1, 5, 5));
         CHECKS.badArgument("pay 0", () -> game.offer(0, 1, 0, 5));
@@ -220,6 +253,18 @@ final class ActionsTest {
         CHECKS.due("the new one did not", 0, () -> game.train(0, 1, 1));
     }
 
+    private static void newTrainsDidNotRun() {
+        RustRails game = Checks.gameOf("R2t011c01995");
+        game.buyTrain(0, 1);
+        game.take(0, 0);
+        game.run(0, 0);
+        game.buyTrain(1, 2);
+        game.buyTrain(2, 3);
+        CHECKS.due("the train that ran is gone", 0, () -> game.company(0, 2));
+        game.buyTrain(0, 2);
+        CHECKS.due("what is bought in its place did not run", 0, () -> game.train(0, 0, 1));
+    }
+
     private static void rounds() {
         RustRails game = Checks.gameOf("R3t012t122c01201c02202c12301c20405");
         game.buyTrain(0, 1);
@@ -234,12 +279,18 @@ final class ActionsTest {
         CHECKS.due("contract 1 is 0 now", 20, () -> game.contract(0, 2));
         CHECKS.due("its rounds stay without a holder", 2, () -> game.contract(0, 3));
         CHECKS.due("contract 3 is 1 now", 40, () -> game.contract(1, 2));
+        CHECKS.due("its city from", 2, () -> game.contract(1, 0));
+        CHECKS.due("its city to", 0, () -> game.contract(1, 1));
         CHECKS.due("its holder", 1, () -> game.contract(1, 4));
         CHECKS.due("its rounds", 4, () -> game.contract(1, 3));
         CHECKS.due("two fines", 10, () -> game.about(8));
         CHECKS.due("company 1 paid them", 90, () -> game.company(1, 0));
         CHECKS.due("no fine for what was run", 90, () -> game.company(0, 0));
         CHECKS.due("the train can run again", 0, () -> game.train(0, 0, 1));
+        game.endRound();
+        CHECKS.due("what is over stays over", 2, () -> game.about(2));
+        CHECKS.due("one more fine", 15, () -> game.about(8));
+        CHECKS.due("one round less", 3, () -> game.contract(1, 3));
     }
 
     private static void bankruptcy() {

@@ -2,6 +2,8 @@ import java.lang.reflect.Constructor;
 import java.lang.reflect.Field;
 import java.lang.reflect.Method;
 import java.lang.reflect.Modifier;
+import java.util.ArrayList;
+import java.util.List;
 import java.util.Set;
 import java.util.TreeSet;
 
@@ -44,6 +46,7 @@ final class FaceTest {
         checks.due("public and final", 1, () -> Modifier.isPublic(face.getModifiers())
                 && Modifier.isFinal(face.getModifiers()) ? 1 : 0);
         checks.same("methods", methods(face).toString(), new TreeSet<>(Set.of(METHODS)).toString());
+        checks.same("names of the face on other methods", namesUsedAgain(face), "");
         checks.same("fields", fields(face), "NONE ");
         checks.same("constructors", constructors(face), "public RustRails()");
         checks.due("NONE", -9, () -> RustRails.NONE);
@@ -67,6 +70,23 @@ final class FaceTest {
             }
         }
         return found;
+    }
+
+    /** Rule 1 of LANGUAGE.md: the names of the public methods are theirs alone, in the classes inside, too. */
+    private static String namesUsedAgain(Class<?> face) {
+        StringBuilder found = new StringBuilder();
+        String faceNames = " " + String.join(" ", METHODS).replace('(', ' ');
+        List<Method> methods = new ArrayList<>(List.of(face.getDeclaredMethods()));
+        methods.removeIf(method -> Modifier.isPublic(method.getModifiers()));
+        for (Class<?> inside : face.getDeclaredClasses()) {
+            methods.addAll(List.of(inside.getDeclaredMethods()));
+        }
+        for (Method method : methods) {
+            if (faceNames.contains(" " + method.getName() + " ")) {
+                found.append(method.getName()).append(" ");
+            }
+        }
+        return found.toString();
     }
 
     private static String fields(Class<?> face) {

@@ -6,6 +6,7 @@ final class ForecastsTest {
         bestContract();
         bestBelowZero();
         bestWithTheGreatestReach();
+        bestWithItsOwnTrains();
         coins();
         bankrupt();
         worth();
@@ -54,6 +55,20 @@ final class ForecastsTest {
         RustRails best = Checks.gameOf("R3t019t121t021c01105c12095");
         best.buyTrain(0, 1);
         CHECKS.due("10 - 2 and 9 - 1", 0, () -> best.bestContract(0));
+    }
+
+    /** Not the trains of others, nor those that are gone. */
+    private static void bestWithItsOwnTrains() {
+        RustRails game = Checks.gameOf("R2t015c01905");
+        for (int j = 0; j < 4; j++) {
+            game.buyTrain(0, 1);
+        }
+        game.buyTrain(1, 2);
+        CHECKS.due("four trains of level 1", RustRails.NONE, () -> game.bestContract(0));
+        CHECKS.due("one of level 2", 0, () -> game.bestContract(1));
+        game.buyTrain(2, 3);
+        game.buyTrain(3, 4);
+        CHECKS.due("it has rusted", RustRails.NONE, () -> game.bestContract(1));
     }
 
     private static void coins() {

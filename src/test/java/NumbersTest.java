@@ -4,6 +4,7 @@ final class NumbersTest {
 
     public static void main(String[] args) {
         books();
+        sums();
         whatIsBought();
         wrongNumbers();
         CHECKS.end();
@@ -28,6 +29,29 @@ final class NumbersTest {
                 "4 3 2 2 1 -365 13 30 5 0 0 | 0,1,2,0 1,2,3,1 2,3,1,-9 "
                 + "| 68 1 1 1 1 0 0 2 | 97 4 0 1 1 12 0 | 100 1 0 0 0 0 0 | 100 1 0 0 0 0 0 "
                 + "| 0,3,30,4,0,0 1,2,9,1,1,0 ");
+    }
+
+    /** The sums of about: company 0 has its part in them, too. */
+    private static void sums() {
+        RustRails game = Checks.gameOf("R2t019c01011");
+        game.buyTrack(0, 0);
+        game.buyTrain(1, 2);
+        game.buyTrain(1, 3);
+        game.setRent(0, 2);
+        game.take(1, 0);
+        game.run(0, 1);
+        CHECKS.due("rents", 18, () -> game.about(6));
+        CHECKS.due("rents of company 0", 18, () -> game.company(0, 5));
+        CHECKS.due("pays", 1, () -> game.about(7));
+        CHECKS.due("company 1 is bankrupt", 1, () -> game.endRound());
+        CHECKS.due("73 + 18 - 1 coins", 90, () -> game.company(0, 0));
+        game.buyTrain(0, 2);
+        game.buyTrain(0, 2);
+        CHECKS.due("10 coins, 5 a round", 0, () -> game.endRound());
+        CHECKS.due("5 coins", 0, () -> game.endRound());
+        CHECKS.due("0 coins", 1, () -> game.endRound());
+        CHECKS.due("both bankruptcies", 2, () -> game.about(9));
+        CHECKS.due("that of company 0", 1, () -> game.company(0, 6));
     }
 
     private static void whatIsBought() {

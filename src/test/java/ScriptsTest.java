@@ -7,11 +7,13 @@ final class ScriptsTest {
         zerosBefore();
         purchases();
         contracts();
+        rentsOfScripts();
         questions();
         groupsThatFail();
         rows();
         scriptsChangeNothing();
         simulations();
+        simulationsOfOthers();
         emptySimulations();
         wrongSimulations();
         CHECKS.end();
@@ -74,6 +76,8 @@ final class ScriptsTest {
         command(game, 33009, true);
         command(game, 34000, false);
         command(game, 30019, false);
+        command(game, 30010, false);
+        command(game, 20010, false);
         command(game, 30109, false);
     }
 
@@ -100,6 +104,19 @@ final class ScriptsTest {
         command(game, 50100, false);
         script(game, 2, 5000050000L, 1);
         script(game, 3, 500006000050000L, RustRails.NONE);
+    }
+
+    /** What a command changes is there for the next one. */
+    private static void rentsOfScripts() {
+        RustRails game = Checks.gameOf("R2t011c01105");
+        game.buyTrain(0, 1);
+        game.buyTrack(1, 0);
+        game.take(0, 0);
+        script(game, 3, 310075000070083L, RustRails.NONE);
+        script(game, 3, 310075000070084L, 2);
+        script(game, 3, 310075000071104L, RustRails.NONE);
+        script(game, 3, 310075000071105L, 2);
+        script(game, 3, 330075000070089L, RustRails.NONE);
     }
 
     private static void questions() {
@@ -202,6 +219,24 @@ final class ScriptsTest {
             inverse *= 2 - factor * inverse;
         }
         return (((long) r << 33) - 1442695040888963407L) * inverse;
+    }
+
+    /** The only track is bought, and the greatest worth is that of company 1. */
+    private static void simulationsOfOthers() {
+        RustRails game = Checks.gameOf("R2t012c01995");
+        game.buyTrain(1, 1);
+        game.take(1, 0);
+        // 80 - 2 + 99 - 1 for upkeep, and 10 for the train
+        simulate(game, 3, 0, 0, 10186);
+        // 80 - 6 + 99 - 2 for upkeep, and 6 + 10
+        simulate(game, 1, 1, 0, 10187);
+        simulate(game, 1, 1, 3, 10187);
+        // the rent goes to company 0
+        simulate(game, 1, 0, 3, 10186);
+        game.offer(0, 1, 99, 9);
+        game.buyTrain(1, 1);
+        // 60 - 4 + 198 - 2, and 20 for the trains
+        simulate(game, 2, 1, 1, 10272);
     }
 
     private static void emptySimulations() {

@@ -9,6 +9,8 @@ final class TextTest {
         errors();
         tooManyParts();
         loading();
+        loadingAfterForecasts();
+        loadingASmallerGame();
         loadingForgets();
         CHECKS.end();
     }
@@ -46,6 +48,11 @@ final class TextTest {
         CHECKS.due("clearText", 3, () -> game.clearText());
         CHECKS.due("clearText again", 0, () -> game.clearText());
         CHECKS.due("append after clearText", 1, () -> game.append('R'));
+        Checks.type(game, "R3t012");
+        game.clearText();
+        CHECKS.due("nothing is left of it", 0, () -> game.errorPosition());
+        Checks.type(game, "R3t01");
+        CHECKS.due("not even the last digit", 5, () -> game.errorPosition());
     }
 
     private static void errors() {
@@ -150,6 +157,54 @@ final class TextTest {
         CHECKS.due("its cities", 9, () -> game.about(0));
         CHECKS.due("its tracks", 0, () -> game.about(1));
         CHECKS.due("its contracts", 0, () -> game.about(2));
+    }
+
+    /** Forecasts and scripts of a game that has gone on leave nothing behind in the one that is loaded. */
+    private static void loadingAfterForecasts() {
+        RustRails game = Checks.gameOf("R2t019c01999c10991c01011");
+        String before = Checks.picture(game);
+        game.buyTrack(1, 0);
+        game.setRent(1, 9);
+        game.buyTrain(0, 2);
+        game.buyTrain(2, 3);
+        game.take(0, 0);
+        game.take(3, 2);
+        game.buyTrain(3, 4);
+        game.buyTrain(1, 3);
+        game.offer(0, 1, 1, 1);
+        game.take(2, 3);
+        game.run(3, 0);
+        game.endRound();
+        CHECKS.due("company 2 is bankrupt", 1, () -> game.about(9));
+        game.coinsAfter(0, 1);
+        game.load();
+        CHECKS.same("as if it had just been made", Checks.picture(game), before);
+        game.buyTrain(0, 2);
+        game.buyTrain(0, 3);
+        game.take(0, 0);
+        CHECKS.due("a script with a run", RustRails.NONE, () -> game.runScript(1, 50001));
+        game.load();
+        CHECKS.same("no contract was run", Checks.picture(game), before);
+    }
+
+    private static void loadingASmallerGame() {
+        RustRails game = Checks.gameOf("R3t011t121t021c01995c12995");
+        for (int t = 0; t < 3; t++) {
+            game.buyTrack(0, t);
+        }
+        game.buyTrain(0, 1);
+        game.take(0, 0);
+        game.take(0, 1);
+        game.coinsAfter(0, 1);
+        game.way(0, 0, 1, 24, 0);
+        Checks.type(game, "R3t121");
+        CHECKS.due("load", 1, () -> game.load());
+        CHECKS.due("no tracks", 0, () -> game.company(0, 3));
+        CHECKS.due("no contracts", 0, () -> game.company(0, 4));
+        CHECKS.due("worth", 100, () -> game.worth(0));
+        CHECKS.due("no way", RustRails.NONE, () -> game.way(0, 0, 2, 24, 0));
+        CHECKS.due("by the bank's track", 1, () -> game.way(0, 1, 2, 24, 0));
+        CHECKS.due("no upkeep", 100, () -> game.coinsAfter(0, 50));
     }
 
     private static void loadingForgets() {

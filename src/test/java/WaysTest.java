@@ -101,6 +101,9 @@ final class WaysTest {
         CHECKS.outOfBounds("company 4", () -> game.way(4, 0, 0, 0, 9));
         CHECKS.outOfBounds("company -1", () -> game.way(-1, 0, 1, 9, 0));
         CHECKS.outOfBounds("city 3", () -> game.way(0, 3, 3, 9, 0));
+        CHECKS.outOfBounds("city 3 from", () -> game.way(0, 3, 0, 9, 0));
+        CHECKS.outOfBounds("city 3 to", () -> game.way(0, 0, 3, 9, 0));
+        CHECKS.outOfBounds("city -1 from", () -> game.way(0, -1, 0, 9, 0));
         CHECKS.outOfBounds("city -1", () -> game.way(0, 0, -1, 0, 0));
         CHECKS.badArgument("the same city", () -> game.way(0, 1, 1, 9, 0));
         CHECKS.badArgument("reach 0", () -> game.way(0, 0, 1, 0, 0));

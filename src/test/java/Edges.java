@@ -106,7 +106,10 @@ final class Edges {
 
     // ---- all that an object shows of itself
 
-    /** After the call: the state and the remembered ones, what the slots hold, and the text; each on a new object. */
+    /**
+     * After the call: the state and what follows from it, the remembered states, what the slots hold, and the text;
+     * each on a new object.
+     */
     static String trace(Recipe recipe, Call call) {
         StringBuilder lines = new StringBuilder();
         for (int times = 0; times <= MORE_THAN_REMEMBERED; times++) {
@@ -116,6 +119,8 @@ final class Edges {
             traceSlot(after(recipe, call), slot, lines);
         }
         traceText(after(recipe, call), lines);
+        traceForecasts(after(recipe, call), lines);
+        traceWays(after(recipe, call), lines);
         return lines.toString();
     }
 
@@ -144,5 +149,32 @@ final class Edges {
         lines.append(", one more: ").append(Checks.outcome(() -> game.append('t')));
         lines.append(", error at ").append(Checks.outcome(game::errorPosition));
         lines.append(", length ").append(Checks.outcome(game::clearText));
+    }
+
+    private static void traceForecasts(RustRails game, StringBuilder lines) {
+        lines.append("\nforecasts:");
+        for (int i = 0; i < 4; i++) {
+            lines.append(" ").append(game.worth(i)).append(" ").append(game.bestContract(i));
+            lines.append(" ").append(game.bankruptAfter(i)).append(" ").append(game.coinsAfter(i, 9));
+            for (int k = 0; k < game.about(2); k++) {
+                lines.append(" ").append(game.levelFor(i, k)).append(game.contract(k, 4) == i ? "!" : "");
+            }
+        }
+        for (int seed = 0; seed < 5; seed++) {
+            lines.append(" ").append(game.simulate(seed, 9));
+        }
+    }
+
+    private static void traceWays(RustRails game, StringBuilder lines) {
+        lines.append("\nways:");
+        for (int i = 0; i < 4; i++) {
+            for (int a = 0; a < game.about(0); a++) {
+                for (int b = 0; b < game.about(0); b++) {
+                    if (a != b) {
+                        lines.append(" ").append(game.way(i, a, b, 24, a % 2 * 3));
+                    }
+                }
+            }
+        }
     }
 }

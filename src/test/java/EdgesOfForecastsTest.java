@@ -19,6 +19,7 @@ final class EdgesOfForecastsTest {
         test.noBestContract();
         test.reachOfBest();
         test.greatestReach();
+        test.trainsOfOthers();
         test.ranOrNot();
         test.greatestGain();
         test.gainsBelowZero();
@@ -134,6 +135,29 @@ final class EdgesOfForecastsTest {
         bankrupt.buyTrain(0, 3);
         bankrupt.endRound();
         best("its trains are gone by bankruptcy", NONE, bankrupt);
+    }
+
+    /** The fourth train of a company is not one of the next company, nor the first one of the company before it. */
+    private void trainsOfOthers() {
+        edges.promise(22, "among the contracts without a holder for which the company has a train with a way",
+                "(of its way with the greatest reach of its trains)");
+        for (int i = 0; i <= 3; i++) {
+            int owner = i;
+            RustRails game = Checks.gameOf("R2t015c01505");
+            for (int j = 0; j < 3; j++) {
+                game.buyTrain(owner, 1);
+            }
+            game.buyTrain(owner, 2);
+            for (int other = 0; other <= 3; other++) {
+                int company = other;
+                int due = company == owner ? 0 : NONE;
+                edges.answers("no trains", due, game, it -> it.bestContract(company));
+                if (company != owner) {
+                    game.buyTrain(company, 1);
+                }
+                edges.answers("too short a reach", due, game, it -> it.bestContract(company));
+            }
+        }
     }
 
     private void ranOrNot() {

@@ -108,17 +108,17 @@ final class EdgesOfRoundsTest {
         edges.answers("without a fine", 0, game, it -> it.about(8));
     }
 
-    /** Of 8 contracts just those of the mask are held, and end: all sets of them. */
+    /** Of 8 contracts just those of the mask end: all sets of them. */
     private void contractsThatAreGone() {
         edges.terms("CONTRACTS", "A contract whose rounds are over is gone, and the numbers of later ones decrease by 1.");
         for (int mask = 0; mask < 256; mask++) {
-            RustRails game = new RustRails();
+            RustRails game = Checks.gameOf("R9");
             StringBuilder due = new StringBuilder();
             for (int k = 0; k < 8; k++) {
                 boolean ends = (mask >> k & 1) == 1;
-                game.offer(k % 2, 2, 10 + k, ends ? 1 : 2);
+                game.offer(k, k + 1, 10 + k, ends ? 1 : 2 + k);
                 game.take(k % 4, k);
-                due.append(ends ? "" : k % 2 + " 2 " + (10 + k) + " 1 " + k % 4 + " 0 | ");
+                due.append(ends ? "" : k + " " + (k + 1) + " " + (10 + k) + " " + (1 + k) + " " + k % 4 + " 0 | ");
             }
             game.endRound();
             StringBuilder left = new StringBuilder();

@@ -8,7 +8,8 @@ final class EdgesOfScriptsTest {
             + "commands with companies, tracks, trains or contracts that do not exist fail, and so does any other group "
             + "(also one with another digit where a 0 is written).";
 
-    private static final String COMMANDS = "1 i 0 x y: company i buys track xy. 2 i 0 0 l: company i buys a train of the level l. "
+    private static final String COMMANDS =
+            "1 i 0 x y: company i buys track xy. 2 i 0 0 l: company i buys a train of the level l. "
             + "3 i 0 0 r: the rent of company i becomes r. 4 i 0 0 k: company i takes contract k. 5 k 0 0 j: a run for "
             + "contract k with train j. 6 0 0 0 0: ends the round. 7 i x y z: succeeds if company i has at least xyz coins. "
             + "8 0 0 0 p: succeeds if the phase is p. 9 i 0 0 m: succeeds if company i has just m trains.";
@@ -32,7 +33,10 @@ final class EdgesOfScriptsTest {
         test.allGroups();
         test.groupsWithOtherDigits();
         test.coinsThatAreAskedFor();
+        test.ninehundredAndNinetyNineCoins();
         test.tracksOfTwoDigits();
+        test.levelsOfScripts();
+        test.rentsOfScripts();
         test.onACopy();
         test.rounds();
         test.draws();
@@ -175,10 +179,12 @@ final class EdgesOfScriptsTest {
             game.take(0, 0);
             return game;
         };
-        int[] good = {10001, 13001, 20001, 23002, 30000, 33009, 40001, 43001, 50000, 60000, 70079, 73100, 80001, 90001, 91000};
-        int[] bad = {10101, 10901, 10002, 14001, 19000, 20101, 20011, 20000, 20003, 20007, 24001, 30100, 30010, 34000, 40101,
-            40011, 40000, 40002, 44001, 50100, 50010, 50001, 51000, 52000, 60001, 60010, 60100, 61000, 70081, 74000, 79000,
-            80101, 80011, 81001, 80000, 80002, 90101, 90011, 90000, 90002, 94000, 0, 1, 10, 100, 1000, 9999};
+        int[] good = {10001, 13001, 20001, 23002, 30000, 33009, 40001, 43001, 50000, 60000, 70079, 73100, 80001,
+            90001, 91000};
+        int[] bad = {10101, 10901, 10002, 14001, 19000, 20101, 20011, 20000, 20003, 20007, 24001, 30100, 30010, 34000,
+            40101, 40011, 40000, 40002, 44001, 50100, 50010, 50001, 51000, 52000, 60001, 60010, 60100, 61000, 70081,
+            74000, 79000, 80101, 80011, 81001, 80000, 80002, 90101, 90011, 90000, 90002, 94000, 0, 1, 10, 100, 1000,
+            9999};
         for (int group : good) {
             edges.onlyAnswers("group " + group, NONE, recipe, game -> game.runScript(1, group));
         }
@@ -213,6 +219,27 @@ final class EdgesOfScriptsTest {
         edges.answers("999 coins", 0, rich, it -> it.runScript(1, 73999));
     }
 
+    private void ninehundredAndNinetyNineCoins() {
+        edges.promise(26, "7 i x y z: succeeds if company i has at least xyz coins.");
+        for (int coins = 998; coins <= 1000; coins++) {
+            RustRails game = Checks.gameOf("R2t011c01999");
+            game.buyTrain(1, 1);
+            game.take(1, 0);
+            for (int round = 0; round < 9; round++) {
+                game.run(0, 0);
+                game.endRound();
+            }
+            game.offer(0, 1, coins - 952, 1);
+            game.take(1, 0);
+            game.run(0, 0);
+            edges.answers("its coins", coins, game, it -> it.company(1, 0));
+            edges.answers("998 of " + coins, NONE, game, it -> it.runScript(1, 71998));
+            edges.answers("999 of " + coins, coins < 999 ? 0 : NONE, game, it -> it.runScript(1, 71999));
+            edges.answers("999 of company 0", 0, game, it -> it.runScript(1, 70999));
+            edges.answers("999 of company 2", 0, game, it -> it.runScript(1, 72999));
+        }
+    }
+
     private void tracksOfTwoDigits() {
         edges.promise(26, "1 i 0 x y: company i buys track xy.", "xy and xyz are decimal numbers.");
         for (int tracks : new int[] {0, 1, 9, 10, 11, 15, 16}) {
@@ -226,6 +253,39 @@ final class EdgesOfScriptsTest {
         edges.answers("it is track 10 that is bought", NONE, lengths, it -> it.runScript(2, 1001070097L));
         edges.answers("not track 1", 1, lengths, it -> it.runScript(2, 1000170097L));
         edges.answers("the same track twice", 1, lengths, it -> it.runScript(2, 1001011010L));
+    }
+
+    private void levelsOfScripts() {
+        edges.promise(26, "2 i 0 0 l: company i buys a train of the level l.", FAIL);
+        for (int p = 1; p <= 6; p++) {
+            int phase = p;
+            RustRails game = Games.rich(phase);
+            edges.answers("coins for any level", 642, game, it -> it.company(2, 0));
+            for (int level = 0; level <= 9; level++) {
+                int group = 22000 + level;
+                boolean isSold = level >= Math.max(1, phase - 1) && level <= Math.min(6, phase + 1);
+                edges.answers("level " + level + " in phase " + phase, isSold ? NONE : 0, game,
+                        it -> it.runScript(1, group));
+            }
+        }
+    }
+
+    private void rentsOfScripts() {
+        edges.promise(26, "3 i 0 0 r: the rent of company i becomes r.");
+        for (int r = 0; r <= 9; r++) {
+            int rent = r;
+            RustRails game = Checks.gameOf("R2t011c01105");
+            game.buyTrack(1, 0);
+            game.setRent(1, 5);
+            game.buyTrain(0, 1);
+            game.take(0, 0);
+            long script = 3100050000L * GROUP + rent * GROUP * GROUP + 71097;
+            edges.answers("a run, and what company 1 has then", NONE, game, it -> it.runScript(3, script + rent));
+            edges.answers("not more", 2, game, it -> it.runScript(3, script + rent + 1));
+            long other = 3200050000L * GROUP + rent * GROUP * GROUP + 71097;
+            edges.answers("not the rent of company 2", NONE, game, it -> it.runScript(3, other + 5));
+            edges.answers("not the rent of company 2", 2, game, it -> it.runScript(3, other + 6));
+        }
     }
 
     private void onACopy() {
@@ -291,6 +351,18 @@ final class EdgesOfScriptsTest {
                 drawnTrack(i, choice);
                 drawnContract(i, choice);
             }
+        }
+        for (int choice = 0; choice <= 3; choice++) {
+            RustRails track = Checks.gameOf("R2t012c01999");
+            track.buyTrain(0, 1);
+            track.take(0, 0);
+            track.setRent(3, 9);
+            drawn("nothing, and a run for 2", 7 + 32 * choice, 10000 + 80 - 2 + 99 - 1 + 10, track);
+            drawn("the only track, and a run for 0", 1 + 32 * choice, 10000 + 80 - 6 + 99 - 2 + 10 + 6, track);
+            drawn("the only track by company 3, and a run for 18", 1 + 24 + 32 * choice, 10000 + 80 - 18 + 99 - 1 + 10, track);
+            RustRails contract = Checks.gameOf("R2t011c01999");
+            contract.buyTrain(2, 1);
+            drawn("the only contract", 2 + 16 + 32 * choice, 10000 + 80 - 1 + 99 - 1 + 10, contract);
         }
         int greatest = Integer.MAX_VALUE;
         for (int kind = 0; kind <= 7; kind++) {
@@ -396,6 +468,14 @@ final class EdgesOfScriptsTest {
         // contract 0 needs the train of level 2, contract 1 gets the first one, 2 and 3 get none:
         // 40 - 5 + 50 - 4 + 40 - 10 for fines - 3 for upkeep, and 30 for the trains
         drawn("the first that can", 7, 20000 + 138, recipe.game());
+        RustRails four = Checks.gameOf("R2t011" + "c01505".repeat(5));
+        for (int j = 0; j < 4; j++) {
+            four.buyTrain(0, 1);
+        }
+        for (int k = 0; k < 5; k++) {
+            four.take(0, k);
+        }
+        drawn("four trains for five contracts", 7, 10000 + 20 + 4 * 49 - 5 - 4 + 40, four);
         RustRails ran = recipe.game();
         ran.run(2, 1);
         // contract 2 was run for 1 with the train of level 2: 0 finds none that reaches so far, 1 gets the other one
@@ -403,12 +483,13 @@ final class EdgesOfScriptsTest {
     }
 
     private void seeds() {
-        edges.promise(27, "`seed`: any long", "A long x starts as the seed.", "Each round first replaces x by x * 6364136223846793005L + 1442695040888963407L "
+        edges.promise(27, "`seed`: any long", "A long x starts as the seed.",
+                "Each round first replaces x by x * 6364136223846793005L + 1442695040888963407L "
                 + "(with long overflow), and r = (int) (x >>> 33) is computed;");
         long[] seeds = {0, 1, -1, 2, -2, Long.MAX_VALUE, Long.MIN_VALUE, Long.MAX_VALUE - 1, Long.MIN_VALUE + 1,
             Integer.MAX_VALUE, Integer.MIN_VALUE, 1L << 33, (1L << 33) - 1, 1L << 62, -(1L << 62)};
         for (long seed : seeds) {
-            for (int m = 1; m <= 12; m++) {
+            for (int m = 1; m <= 8; m++) {
                 int rounds = m;
                 for (Edges.Recipe recipe : new Edges.Recipe[] {RustRails::new, Games::young, Games::old}) {
                     edges.answers("seed " + seed + ", " + m + " rounds", byHand(recipe, seed, rounds), recipe.game(),
@@ -421,11 +502,14 @@ final class EdgesOfScriptsTest {
     private void manyRounds() {
         edges.promise(27, "`m`: number of rounds, 1 to 50", "Each round first replaces x by x * 6364136223846793005L + "
                 + "1442695040888963407L (with long overflow), and r = (int) (x >>> 33) is computed;");
+        Edges.Recipe[] recipes = {RustRails::new, () -> Checks.gameOf("R2"), () -> Checks.gameOf("R3t012t123c02305")};
         for (long seed = -40; seed <= 40; seed++) {
             long told = seed * 1234567890123456789L;
             for (int m : new int[] {49, 50}) {
-                edges.answers("seed " + told + ", " + m + " rounds", byHand(Games::old, told, m), Games.old(),
-                        it -> it.simulate(told, m));
+                for (Edges.Recipe recipe : recipes) {
+                    edges.answers("seed " + told + ", " + m + " rounds", byHand(recipe, told, m), recipe.game(),
+                            it -> it.simulate(told, m));
+                }
             }
         }
     }
@@ -454,7 +538,7 @@ final class EdgesOfScriptsTest {
         drawn("all are bankrupt", 7, 20000, poor);
     }
 
-    // ---- the same by calls of the face
+    // ---- the same by calls of the face, few enough for one object
 
     private static int byHand(Edges.Recipe recipe, long seed, int m) {
         RustRails game = recipe.game();
@@ -485,10 +569,12 @@ final class EdgesOfScriptsTest {
     }
 
     private static void runAll(RustRails game) {
-        for (int k = 0; k < game.about(2); k++) {
-            boolean done = false;
+        int contracts = game.about(2);
+        for (int k = 0; k < contracts; k++) {
             int holder = game.contract(k, 4);
-            for (int j = 0; holder != NONE && j < game.company(holder, 2) && !done; j++) {
+            int trains = holder == NONE ? 0 : game.company(holder, 2);
+            boolean done = false;
+            for (int j = 0; j < trains && !done; j++) {
                 done = game.whyNot(k, j) == 0 && game.run(k, j) >= 0;
             }
         }

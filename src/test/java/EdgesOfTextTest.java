@@ -273,6 +273,8 @@ final class EdgesOfTextTest {
         for (Edges.Recipe recipe : new Edges.Recipe[] {Games::young, Games::old, Games::closed}) {
             Edges.Recipe retyped = () -> {
                 RustRails game = recipe.game();
+                // what forecasts have used may not show in the game that is loaded
+                game.coinsAfter(3, 0);
                 Checks.type(game, text);
                 return game;
             };

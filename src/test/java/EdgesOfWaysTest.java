@@ -392,6 +392,13 @@ final class EdgesOfWaysTest {
             edges.onlyAnswers("without a holder, as far as level 3 goes", 3, recipe, game -> game.levelFor(company, 1));
             edges.onlyAnswers("run", 1, recipe, game -> game.levelFor(company, 2));
         }
+        Edges.Recipe offered = () -> {
+            RustRails game = new RustRails();
+            game.offer(2, 0, 1, 1);
+            return game;
+        };
+        edges.onlyAnswers("one that was offered", 1, offered, game -> game.levelFor(3, 0));
+        edges.refuses("one behind it", Edges.NO_SUCH, offered, game -> game.levelFor(3, 1));
     }
 
     private void nothingChanges() {

@@ -21,10 +21,11 @@ final class SentencesTest {
         EdgesOfContractsTest::all, EdgesOfRoundsTest::all, EdgesOfUndoTest::all, EdgesOfWaysTest::all,
         EdgesOfForecastsTest::all, EdgesOfScriptsTest::all, EdgesOfSlotsTest::all,
     };
-    private static final Pattern START = Pattern.compile("^(## Promise \\d+|## [A-Z][a-z ]+|The constants:|Ahead of|[A-Z][A-Z ]{3,}$)");
-    // "## Promise 2: append `int append(int c) throws ..`:", "TEXT", "Ahead of the calls .. the interface says: ---- text."
-    private static final String HEADINGS =
-            "^## Promise \\d+: .*?`[^`]*`:( |$)|^## [A-Z][a-z ]+|Ahead of the calls [^:]*:|---- [a-z ,]*\\.|^[A-Z][A-Z ]{3,}(?= |$)|^- |-$";
+    private static final Pattern START = Pattern.compile(
+            "^(## Promise \\d+|## [A-Z][a-z ]+|The constants:|Ahead of|[A-Z][A-Z ]{3,}$)");
+    // as "## Promise 2: append `int append(int c) throws ..`:", "## What it is", "TEXT", and what stands before calls
+    private static final String HEADINGS = "^## Promise \\d+: .*?`[^`]*`:( |$)|^## [A-Z][a-z ]+|^[A-Z][A-Z ]{3,}(?= |$)"
+            + "|Ahead of the calls [^:]*:|---- [a-z ,]*\\.|^- |-$";
     private static final Set<String> WITHOUT_EDGES = Set.of("before", "The public face", "Terms", "Not promised");
     private static final Set<String> NO_EDGE = Set.of(
             "A rail game: companies buy tracks and trains, rent out their tracks, and carry mail for contracts; trains rust as "
